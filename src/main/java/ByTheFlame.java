@@ -661,6 +661,8 @@ public final class ByTheFlame {
         private final int[] price = new int[DEPTHS * MOST_WICKS * MOST_ENDS];
         private final int[] speed = new int[MOST_WICKS * (MOST_ENDS + 1)];
         private final int[] events = new int[DEPTHS];
+        /** What the digit of each wick is worth in the first lighting. */
+        private final int[] units = new int[MOST_WICKS];
         private int known = NONE;
         private boolean priced = false;
 
@@ -750,7 +752,10 @@ public final class ByTheFlame {
             Arrays.fill(apart, 0);
             Arrays.fill(price, 0);
             priced = withPrices;
-            for (int w = 0; w < MOST_WICKS; w++) {
+            int unit = 1;
+            for (int w = MOST_WICKS - 1; w >= 0; w--) {
+                units[w] = unit;
+                unit *= w < cloth.count ? 10 : 1;
                 // a wick that is not among them is never lit, as if it had no parts
                 parts[w] = (some >> w & 1) == 1 ? cloth.parts[w] : 0;
                 lit[w] = 0;
@@ -759,25 +764,36 @@ public final class ByTheFlame {
             choose(0, 0, 0, 0, 0, 0);
         }
 
-        /** Each way to light ends of wick w and those behind it is gone through. */
-        private void choose(int depth, int w, int time, int ends, int cost, int first) {
+        /** Each way to light ends of the wicks from one on is gone through. */
+        private void choose(int depth, int from, int time, int ends, int cost, int first) {
             if (depth >= DEPTHS) {
                 return;
             }
-            if (w >= cloth.count || w >= MOST_WICKS) {
+            int w = withParts(depth, from);
+            if (w >= MOST_WICKS) {
                 untilAnyIsOut(depth, time, ends, cost, first);
                 return;
             }
             int at = depth * MOST_WICKS + w;
+            int unit = depth == 0 ? units[w] : 0;
             int ahead = lit[at];
-            int most = parts[at] > 0 ? MOST_ENDS : ahead;
             int costs = cost;
-            for (int l = ahead; l <= most; l++) {
+            for (int l = ahead; l <= MOST_ENDS; l++) {
                 lit[at] = l;
-                choose(depth, w + 1, time, ends + l - ahead, costs, depth == 0 ? first * 10 + l : first);
+                choose(depth, w + 1, time, ends + l - ahead, costs, first + l * unit);
                 costs += l < MOST_ENDS ? price[at * MOST_ENDS + l] : 0;
             }
             lit[at] = ahead;
+        }
+
+        /** The next wick, from one on, that has parts; MOST_WICKS: none. */
+        private int withParts(int depth, int from) {
+            for (int w = from; w < MOST_WICKS; w++) {
+                if (parts[depth * MOST_WICKS + w] > 0) {
+                    return w;
+                }
+            }
+            return MOST_WICKS;
         }
 
         private void untilAnyIsOut(int depth, int time, int ends, int cost, int first) {
