@@ -644,6 +644,7 @@ public final class ByTheFlame {
         private static final int DEPTHS = MOST_WICKS + 1;
         // A span's place in the rows; blocks of spans reach a little farther than spans do.
         private static final int PLACES = BLOCK * (MOST_BLOCK + 1);
+        private static final int STATES = MOST_ENDS + 1;
         private static final int UNTOLD = 0x7fffffff;
         // The first lighting has a digit for each wick, so it is below this.
         private static final int LEAST_UNIT = 10000;
@@ -659,7 +660,8 @@ public final class ByTheFlame {
         private final int[] lit = new int[DEPTHS * MOST_WICKS];
         /** What lighting the first and the second end costs, by place in the rows. */
         private final int[] price = new int[DEPTHS * MOST_WICKS * MOST_ENDS];
-        private final int[] speed = new int[MOST_WICKS * (MOST_ENDS + 1)];
+        /** How fast each wick is with no, one, both ends lit. */
+        private final int[] speed = new int[MOST_WICKS * STATES];
         private final int[] events = new int[DEPTHS];
         /** What the digit of each wick is worth in the first lighting. */
         private final int[] units = new int[MOST_WICKS];
@@ -735,7 +737,7 @@ public final class ByTheFlame {
             boolean changed = false;
             for (int w = 0; w < MOST_WICKS; w++) {
                 for (int ends = 0; ends <= MOST_ENDS; ends++) {
-                    int at = w * (MOST_ENDS + 1) + ends;
+                    int at = w * STATES + ends;
                     int now = cloth.fast(w, ends, damp);
                     if (speed[at] != now) {
                         speed[at] = now;
@@ -778,12 +780,17 @@ public final class ByTheFlame {
             int unit = depth == 0 ? units[w] : 0;
             int ahead = lit[at];
             int costs = cost;
-            for (int l = ahead; l <= MOST_ENDS; l++) {
+            for (int l = ahead; l <= usefulEnds(w); l++) {
                 lit[at] = l;
                 choose(depth, w + 1, time, ends + l - ahead, costs, first + l * unit);
                 costs += l < MOST_ENDS ? price[at * MOST_ENDS + l] : 0;
             }
             lit[at] = ahead;
+        }
+
+        /** A second end that makes the wick no faster tells nothing more, and is neither fewer nor cheaper. */
+        private int usefulEnds(int w) {
+            return speed[w * STATES + 2] > speed[w * STATES + 1] ? 2 : 1;
         }
 
         /** The next wick, from one on, that has parts; MOST_WICKS: none. */
@@ -811,18 +818,15 @@ public final class ByTheFlame {
             }
         }
 
-        private int speedOf(int at) {
-            return speed[at % MOST_WICKS * (MOST_ENDS + 1) + lit[at]];
-        }
-
         /** 0: none is lit. */
         private int momentsToEvent(int depth) {
+            int row = depth * MOST_WICKS;
             int fewest = 0;
-            for (int at = depth * MOST_WICKS; at < (depth + 1) * MOST_WICKS; at++) {
-                int fast = speedOf(at);
+            for (int w = 0; w < MOST_WICKS; w++) {
+                int fast = lit[row + w] == 0 ? 0 : speed[w * STATES + lit[row + w]];
                 if (fast > 0) {
-                    int lasts = (parts[at] + fast - 1) / fast;
-                    fewest = fewest == 0 ? lasts : Math.min(fewest, lasts);
+                    int lasts = (parts[row + w] + fast - 1) / fast;
+                    fewest = fewest == 0 || lasts < fewest ? lasts : fewest;
                 }
             }
             return fewest;
@@ -830,11 +834,13 @@ public final class ByTheFlame {
 
         /** The row behind that of a depth, moments later: whether any parts are left. */
         private boolean burnDown(int depth, int moments) {
+            int row = depth * MOST_WICKS;
             boolean any = false;
-            for (int at = depth * MOST_WICKS; at < (depth + 1) * MOST_WICKS; at++) {
-                int left = Math.max(0, parts[at] - moments * speedOf(at));
-                parts[at + MOST_WICKS] = left;
-                lit[at + MOST_WICKS] = left > 0 ? lit[at] : 0;
+            for (int w = 0; w < MOST_WICKS; w++) {
+                int ends = lit[row + w];
+                int left = ends == 0 ? parts[row + w] : parts[row + w] - moments * speed[w * STATES + ends];
+                parts[row + MOST_WICKS + w] = left > 0 ? left : 0;
+                lit[row + MOST_WICKS + w] = left > 0 ? ends : 0;
                 if (left > 0) {
                     any = true;
                 }

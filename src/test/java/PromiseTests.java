@@ -293,6 +293,8 @@ public final class PromiseTests {
         value("5 or 0", 1);
         value("0 or 0", 0);
         value("5 and 6", 1);
+        value("1 and 1", 1);
+        value("2<2", 0);
         value("5 and 0", 0);
         value("1 or 0 and 0", 1);
         value("(1 or 0) and 0", 0);
@@ -351,6 +353,7 @@ public final class PromiseTests {
         due("below", x.burn(-1), -2);
         due("above", x.burn(251), -2);
         due("moment", x.count(3), 0);
+        due("no moments", x.burn(0), 0);
         due("none is lit", x.burn(3), 0);
         due("moment", x.count(3), 3);
         x.light(0, 1);
@@ -410,6 +413,11 @@ public final class PromiseTests {
         due("nothing is changed", x.count(7), 120);
         x.set(0, 0, 40);
         due("as it is now", x.spans(1, 0), 1 << 20);
+        due("a block begins", withWicks(0, 0, 31).spans(1, 1), 1);
+        due("a block ends ahead of it", withWicks(0, 0, 31).spans(1, 0), 1 << 16);
+        ByTheFlame longest = withWicks(0, 0, 99, 0, 0, 99, 0, 0, 99, 0, 0, 99);
+        due("one behind the other", longest.spans(15, 12), 1 << 396 - 12 * 31);
+        due("three and a half", longest.spans(15, 11), 1 << 347 - 11 * 31);
     }
 
     private static void tell() {
@@ -420,6 +428,12 @@ public final class PromiseTests {
             due("bad", x.tell(b[0], b[1], b[2]), -2);
         }
         due("none", x.tell(3, 400, 0), -1);
+        ByTheFlame damp = withWicks(2, 0, 20);
+        due("both ends", damp.tell(1, 10, 0), 2);
+        damp.set(4, 0, 1);
+        due("both ends are no faster", damp.tell(1, 10, 0), -1);
+        due("one end", damp.tell(1, 20, 0), 1);
+        due("one end", damp.tell(1, 20, 2), 1);
         due("none", x.tell(3, 44, 0), -1);
         due("none", x.tell(3, 44, 1), -1);
         due("none", x.tell(3, 44, 2), -1);
@@ -517,6 +531,8 @@ public final class PromiseTests {
         due("20 alone: 10 not by damp above 4", x.sure(2), 1L << 20);
         due("none", x.sure(4), 0);
         due("up to 60", x.sure(8), 1L << 31);
+        due("from 1 on", withWicks(0, 0, 1).sure(1), 2);
+        due("damp 9, too: two ends are faster up to 8", withWicks(2, 8, 20).sure(1), 1L << 20);
         x.set(4, 0, 9);
         due("whatever the damp is now", x.sure(2), 1L << 20);
         due("spans by the damp that is now", x.spans(2, 0), 1 << 20);
