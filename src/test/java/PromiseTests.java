@@ -687,6 +687,7 @@ public final class PromiseTests {
         int[] seeds = {0, 1, -7, 2147483640, 123456789};
         int[] span = {0, 9, 5};
         for (int seed : seeds) {
+            x = withWicks(0, 0, 9);
             for (int n = 1; n <= 20; n++) {
                 for (int ends = 0; ends <= 2; ends++) {
                     int hits = 0;

@@ -166,8 +166,30 @@ public final class TellEdges extends Edges {
         due("back", x.spans(1, 0), bits(10, 20));
         due("wick", x.wick(WICK, 0, 5), 1);
         due("wick", x.spans(3, 0) & bits(5, 25), bits(5, 25));
-        x.sure(1);
-        due("behind sure()", x.spans(1, 0), bits(10, 20));
+        due("first, with two wicks", x.tell(1, 10, 2), 20);
+        x.wick(WICK, 0, 5);
+        due("first, with three", x.tell(1, 10, 2), 200);
+        due("cheapest", x.tell(1, 10, 1), 2);
+        ruled(x, "costs 8" + REST);
+        due("the rule", x.tell(1, 10, 1), 16);
+    }
+
+    /** A call tells what holds of its own wicks, whatever was asked ahead of it. */
+    static void tellingAfterAnother() {
+        ByTheFlame x = withWicks(WICK, 0, 60, WICK, 0, 60, TWISTED, 0, 20);
+        due("by both", x.between(3, 15), 1);
+        due("by one", x.between(1, 15), 0);
+        due("by both", x.tell(3, 45, 0), 4);
+        due("by one", x.tell(1, 45, 0), NONE);
+        due("by none", x.worth(0, 0), NONE);
+        due("by one", x.worth(2, 0), 60);
+        due("twisted", x.spans(4, 0), bits(5, 10));
+        due("in any damp", x.sure(4), 0);
+        due("twisted in damp 0", x.spans(4, 0), bits(5, 10));
+        due("one that burns alike in any damp", x.sure(1), bits(30, 60));
+        due("twisted in damp 0", x.tell(4, 5, 0), 2);
+        due("cheapest", x.tell(4, 5, 1), 2);
+        due("first", x.tell(4, 5, 2), 2);
     }
 
     // ---- promise 12

@@ -85,6 +85,18 @@ public final class TextEdges extends Edges {
         due("159 bytes end too early", read(new ByTheFlame(), longest().substring(0, 159)), -259);
     }
 
+    /** Each TEXT has 160 bytes of its own, one behind the other, a FAULT between them. */
+    static void textsOf160Bytes() {
+        ByTheFlame x = withWicks(WICK, 0, 9);
+        due("160 bytes", read(x, longest()), 1);
+        due("160 bytes and a fault at last", read(x, longest().substring(0, 159) + "?"), -259);
+        due("160 bytes", read(x, longest().replace("+1;", "+7;")), 2);
+        x.force(1);
+        due("1 and 68 times 1", x.copies(0, 1, 1), 69);
+        x.force(2);
+        due("6 more", x.copies(0, 1, 1), 75);
+    }
+
     // ---- promise 6
 
     /** "There are 6 TEXTS at most, TEXT 0 with them"; text() answers the number. */
@@ -232,6 +244,20 @@ public final class TextEdges extends Edges {
         stands("1and 2");
         faultAt("parts^1");
         faultAt("1^parts");
+    }
+
+    /** "WORDS (a .. z)", "NUMBERS (as many digits as stand there)": from a to z, from 0 to 9, no byte more. */
+    static void lettersAndDigits() {
+        for (char letter = 'a'; letter <= 'z'; letter++) {
+            fault("costs" + letter + " 1" + REST, 0);
+        }
+        for (char digit = '0'; digit <= '9'; digit++) {
+            fault("costs 1234" + digit + REST, 6);
+        }
+        fault("costs" + (char) ('a' - 1) + " 1" + REST, 5);
+        fault("costs" + (char) ('z' + 1) + " 1" + REST, 5);
+        fault("costs 1234" + (char) ('0' - 1) + REST, 10);
+        fault("costs 1234" + (char) ('9' + 1) + REST, 10);
     }
 
     /** A WORD is a KEY or a NAME as a whole: no byte less, no byte more, no other letter. */
