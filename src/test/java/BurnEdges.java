@@ -250,7 +250,7 @@ public final class BurnEdges extends Edges {
         changesNothing("both ends are lit", BurnEdges::unlike, 35, x -> x.out(2));
     }
 
-    /** "in how many MOMENTS from now on a WICK goes OUT": parts that are just so many moments' , one more, one fewer. */
+    /** "in how many MOMENTS from now on a WICK goes OUT": the last moment's parts may be fewer. */
     static void outOfWholeAndBrokenMoments() {
         int[] parts = {1, 2, 3, 4, 5, 7, 8, 9, 98, 99};
         int[] byFour = {1, 1, 1, 1, 2, 2, 2, 3, 25, 25};
